@@ -124,6 +124,8 @@ public final class PromisesTest {
         due.is("unchanged", x.holds(0), 100);
         x.set(7, 119, 5);
         due.is("element", x.element(7, 119), 5);
+        due.is("behind the last", x.element(7, 120), 0);
+        due.is("none in an empty row", x.set(0, 0, 1), -5);
         x.row(7, 3, 120);
         due.is("a new row is 0", x.element(7, 119), 0);
         x.laying(7, 0, 0);
@@ -661,6 +663,9 @@ public final class PromisesTest {
         due.is("TOLD", x.light(6, 20, 0, 11), 10250);
         x.laying(1, 1, 0);
         due.is("ONE, side 0", x.light(1, 20, 0, 11), 13403);
+        x.lamp(3, -1);
+        x.lamp(0, 0);
+        due.is("ONE with PLACE 0", x.light(1, 20, 0, 11), 13403);
     }
 
     private static void turns() {
@@ -680,6 +685,15 @@ public final class PromisesTest {
         due.is("none of side 1", x.says(0, 2), 4);
         due.is("none of side 1", x.says(1, 2), 0);
         due.is("how many", x.says(0, 0), 1);
+        x.place(1, 0);
+        x.place(0, 0);
+        x.lamp(7, 0);
+        x.lamp(8, 0);
+        due.is("two at YARD 0", x.says(0, 2), 256);
+        due.is("two at YARD 0", x.says(1, 2), 128 + 256);
+        x.lay(0, 0);
+        x.lamp(0, 0);
+        due.is("alone", x.says(1, 2), 1);
     }
 
     private static void faces() {
@@ -984,6 +998,8 @@ public final class PromisesTest {
         due.is("0 is everywhere", x.reach(1), 59);
         due.is("sort", x.reach(2), -11);
         due.is("sort", x.reach(-1), -11);
+        add(x, "sort 1 1 1 1;least 999");
+        due.is("at 0 alone", x.reach(2), 0);
         refused(x, -1, 2);
     }
 
@@ -1014,6 +1030,15 @@ public final class PromisesTest {
         due.is("by leaves", x.worst(), 5);
         add(x, "tree 2;tree 2;tree 2;tree 2;tree 2");
         due.is("nothing left by LEAVES 2 already", x.worst(), 4);
+        x = along("long 13;wide 1;sort 12 1 0 1;place 0 0;tree 2");
+        x.lamp(0, 0);
+        due.is("3, then 2, then 1, then 0", x.worst(), 5);
+        x = along("long 3;wide 1;sort 2 4 0 1;place 0 0;tree 2");
+        x.lamp(0, 0);
+        due.is("behind the tree", x.worst(), 5);
+        add(x, "shop 4 999 1;shop 5 999 1");
+        // In summer 1124 and 1110 there; 1049 at POINT 1 in any MONTH.
+        due.is("the shops make up for it", x.worst(), 0);
     }
 
     private static void shades() {
@@ -1083,6 +1108,8 @@ public final class PromisesTest {
         // At yard 2 500, in summer 125; at yard 3 307, 76 and 45; at yard 4 200, 50 and 22.
         due.is("winter", x.spill(0, 0), 0);
         due.is("summer", x.spill(0, 6), 1);
+        x.ask(0, 80);
+        due.is("the lamp's whole light", x.spill(0, 6), 1);
     }
 
     private static void dims() {
@@ -1144,6 +1171,10 @@ public final class PromisesTest {
             due.is("far", x.bulbs(MIN, together), -6);
         }
         due.is("one", x.bulbs(1, true), 0);
+        add(x, "sort 1 1 5 1;place 0 0");
+        x.lay(16, 2);
+        due.is("one month each", x.bulbs(3, true), 3 * 55);
+        due.is("one month each", x.bulbs(3, false), 3 * 35);
     }
 
     private static void moves() {

@@ -1,0 +1,155 @@
+import com.sun.management.ThreadMXBean;
+import java.io.IOException;
+import java.lang.management.ManagementFactory;
+import java.lang.reflect.Method;
+import java.lang.reflect.Modifier;
+import java.nio.charset.StandardCharsets;
+import java.nio.file.Files;
+import java.nio.file.Path;
+import java.util.ArrayList;
+import java.util.Arrays;
+import java.util.List;
+import java.util.Set;
+import java.util.TreeSet;
+import java.util.regex.Matcher;
+import java.util.regex.Pattern;
+
+/** The rules of LANGUAGE.md that can be seen in the source, in the compiled class, and in what it makes. */
+public final class LanguageTest {
+    private static final Path SOURCE = Path.of("src/main/java/LightAlong.java");
+    private static final String FACE = "row(int,int,int) set(int,int,long) copy(int,int,int,int,int) element(int,int)"
+        + " laying(int,int,int) holds(int) says(int,int) sort(int,int,int,int) place(int,int) stand(int,int)"
+        + " window(int,int) shop(int,int,int) ask(int,int) street(int) fault() sortOf(int,int) placeOf(int,int)"
+        + " lamp(int,int) out(int,boolean) light(int,int,int,int) face(int,int,int,int) faulty(int,int,int)"
+        + " dark(int,int,int) coin(int,int) cheapest(int,int) fewest(int,int) firm(int,int) bound(int,int) which(int)"
+        + " reach(int) worst() shade(int,int,int) spill(int,int) dim(int) bulbs(int,boolean) moved(int,int)"
+        + " lay(int,int) judge(int,int,int) act(int,int,int) trace(int) image() restore() status(int)";
+
+    private static final Due due = new Due();
+
+    private LanguageTest() {
+    }
+
+    public static void main(String[] args) throws IOException {
+        String source = Files.readString(SOURCE, StandardCharsets.US_ASCII);
+        face();
+        words(withoutTexts(source));
+        sizes(withoutTexts(source));
+        room();
+        due.end();
+    }
+
+    private static List<Class<?>> classes() {
+        List<Class<?>> all = new ArrayList<>(List.of(LightAlong.class.getDeclaredClasses()));
+        all.add(LightAlong.class);
+        return all;
+    }
+
+    private static void face() {
+        due.about("rule 1");
+        Set<String> wanted = new TreeSet<>(Arrays.asList(FACE.split(" ")));
+        Set<String> names = new TreeSet<>();
+        Set<String> found = new TreeSet<>();
+        for (Method m : LightAlong.class.getDeclaredMethods()) {
+            if (m.isSynthetic()) continue;
+            if (Modifier.isPublic(m.getModifiers())) {
+                names.add(m.getName());
+                String types = Arrays.toString(Arrays.stream(m.getParameterTypes()).map(Class::getName).toArray());
+                found.add(m.getName() + "(" + types.substring(1, types.length() - 1).replace(" ", "") + ")");
+                due.is(m.getName() + " static", m.getModifiers() & Modifier.STATIC, 0);
+                due.holds(m.getName() + "'s answer",
+                    m.getReturnType() == (m.getName().equals("element") ? long.class : int.class));
+            } else {
+                due.holds(m.getName() + " is private", Modifier.isPrivate(m.getModifiers()));
+            }
+        }
+        due.holds("the face: " + found, found.equals(wanted));
+        due.holds("public and final", LightAlong.class.getModifiers() == (Modifier.PUBLIC | Modifier.FINAL));
+        due.is("constructors", LightAlong.class.getConstructors().length, 1);
+        due.is("public fields", LightAlong.class.getFields().length, 1);
+        due.is("classes", classes().size() <= 12 ? 1 : 0, 1);
+        for (Class<?> c : classes()) {
+            if (c != LightAlong.class) due.holds(c + " is static", Modifier.isStatic(c.getModifiers()));
+            for (Method m : c.getDeclaredMethods()) {
+                if (Modifier.isPublic(m.getModifiers()) || m.isSynthetic()) continue;
+                due.holds(m + " bears no public name", !names.contains(m.getName()));
+                due.holds(m + " takes seven at most", m.getParameterCount() <= 7);
+            }
+            long fields = Arrays.stream(c.getDeclaredFields()).filter(f -> !Modifier.isStatic(f.getModifiers())).count();
+            due.holds(c + " has twenty fields at most", fields <= 20);
+            Arrays.stream(c.getDeclaredFields()).filter(f -> Modifier.isStatic(f.getModifiers()))
+                .forEach(f -> due.holds(f + " is final", Modifier.isFinal(f.getModifiers())));
+        }
+    }
+
+    /** The source with its comments and texts taken out. */
+    private static String withoutTexts(String source) {
+        return source.replaceAll("(?s)/\\*.*?\\*/", "").replaceAll("//[^\n]*", "")
+            .replaceAll("\"[^\"\n]*\"", "\"\"").replaceAll("'[^'\n]+'", "' '");
+    }
+
+    private static void words(String code) {
+        due.about("rules 2 to 6");
+        String forbidden = "\\b(throw|throws|try|catch|finally|synchronized|assert|volatile|native|package|protected"
+            + "|equals|hashCode|toString|Exact|Object|Random|Thread|record|var|goto)\\b|->|::|\\bstatic\\s*\\{|Exact\\(";
+        Matcher m = Pattern.compile(forbidden).matcher(code);
+        while (m.find()) due.holds("no " + m.group(), false);
+        due.holds("one import", code.replaceAll("import java\\.util\\.(Arrays|ArrayList|List);", "").indexOf("import") < 0);
+        m = Pattern.compile("\\b(Math|Integer|Long|System|Arrays)\\.(\\w+)").matcher(code);
+        Set<String> library = Set.of("Math.min", "Math.max", "Math.abs", "Integer.bitCount", "Integer.MAX_VALUE",
+            "System.arraycopy", "Arrays.fill");
+        while (m.find()) due.holds(m.group() + " is of the library that is allowed", library.contains(m.group()));
+        due.holds("no endless loop", !code.contains("while (true)") && !code.contains("for (;;)"));
+    }
+
+    private static void sizes(String code) {
+        due.about("rule 11");
+        String[] lines = code.split("\n");
+        int start = 0;
+        for (int i = 0; i < lines.length; i++) {
+            if (lines[i].matches(" {4}( {4})?[\\w<>\\[\\] ]+\\(.*\\) \\{")) start = i;
+            if (lines[i].matches(" {4}( {4})?\\}")) due.holds("line " + i + " ends a short method", i - start <= 60);
+            due.holds("line " + (i + 1) + " isn't long", lines[i].length() <= 120);
+        }
+    }
+
+    /** What a run makes: an object's rows at its start, and nothing after that. */
+    private static void room() {
+        due.about("room");
+        ThreadMXBean threads = (ThreadMXBean) ManagementFactory.getThreadMXBean();
+        long thread = Thread.currentThread().getId();
+        dearRun(new LightAlong());
+        long before = threads.getThreadAllocatedBytes(thread);
+        LightAlong x = new LightAlong();
+        long made = threads.getThreadAllocatedBytes(thread);
+        dearRun(x);
+        long after = threads.getThreadAllocatedBytes(thread);
+        due.holds("an object is small: " + (made - before), made - before < 40000);
+        due.holds("calls make nothing: " + (after - made), after - made < 1000);
+    }
+
+    private static void dearRun(LightAlong x) {
+        x.ask(0, 0);
+        x.ask(3, 60);
+        for (int i = 0; i < 6; i++) x.sort(1 + i, 99, i, 9);
+        for (int i = 0; i < 9; i++) x.place(i * 13, i);
+        for (int i = 0; i < 12; i++) x.stand(0, i * 7);
+        x.lay(511, 0);
+        x.row(1, 3, 4);
+        for (int i = 0; i < 4; i++) x.set(1, i, i == 0 ? 'p' : 'o');
+        for (int i = 0; i < 30; i++) {
+            x.laying(0, i % 7, 0);
+            x.which(5);
+            x.firm(i % 6, 5);
+            x.bound(i % 6, 5);
+            x.dim(i % 12);
+            x.worst();
+            x.dark(0, 5, 0);
+            x.judge(0, 1, 5);
+            x.street(1);
+            x.act(0, 2, i);
+            x.image();
+            x.restore();
+        }
+    }
+}
