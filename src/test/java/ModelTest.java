@@ -46,7 +46,8 @@ public final class ModelTest {
             for (int p = 0; p < 9; p++) same("lamp", x.lamp(p, few(3) - 1), y.lamp(p, last - 1));
             for (int s = 0; s < 7; s++) same("laying", x.laying(s, s, few(2)), y.laying(s, s, last));
         }
-        while (calls < CALLS - 8) call();
+        // One turn makes 24 calls at most, but for street() and judgeWell(), which look at what is left.
+        while (calls < CALLS - 24) call();
     }
 
     private int last;

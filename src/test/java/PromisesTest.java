@@ -50,12 +50,6 @@ public final class PromisesTest {
 
     // ---- help
 
-    /** Puts a text's letters into a SHELF as a ROW. */
-    private static void letters(LightAlong x, int shelf, int sort, String text) {
-        x.row(shelf, sort, text.length());
-        for (int i = 0; i < text.length(); i++) x.set(shelf, i, text.charAt(i));
-    }
-
     /** street() of a text on a new object: the answer and the FAULT. */
     private static void text(String text, int answer, int fault) {
         LightAlong x = new LightAlong();
@@ -68,17 +62,16 @@ public final class PromisesTest {
         text(text, -6, fault);
     }
 
+    private static void letters(LightAlong x, int shelf, int sort, String text) {
+        Streets.letters(x, shelf, sort, text);
+    }
+
     private static LightAlong along(String text) {
-        LightAlong x = new LightAlong();
-        add(x, text);
-        return x;
+        return Streets.along(text);
     }
 
     private static void add(LightAlong x, String text) {
-        letters(x, 7, 0, text);
-        int got = x.street(7);
-        due.holds("\"" + text + "\" is a street, " + x.fault(), got > 0);
-        x.laying(7, -1, 0);
+        Streets.add(x, text);
     }
 
     private static void refused(LightAlong x, int number, int times) {
