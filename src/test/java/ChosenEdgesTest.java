@@ -195,7 +195,13 @@ public final class ChosenEdgesTest {
             x.ask(3, yards + 1);
             chosen(x, "and counts", -5, -5, -5);
             due.is("BOUND", x.bound(0, 0), -1);
+            x.ask(3, yards);
+            chosen(x, "and doesn't again", 1, 1, -5);
+            due.is("BOUND", x.bound(0, 0), 1);
         }
+        LightAlong x = Streets.along("sort 12 99 0 1;place 0 0;place 118 0;wide 1;even 99;long 60;wall 116");
+        chosen(x, "all 60 YARDS, by two", 3, 3, -5);
+        due.is("BOUND", x.bound(0, 0), 1);
     }
 
     private static void leastCoinThenLeastBits() {
@@ -632,6 +638,10 @@ public final class ChosenEdgesTest {
         due.is("at the first", x.spill(0, 0), 3);
         due.is("at the last", x.spill(1, 0), 3);
         due.is("beyond LONG", x.spill(2, 0), 5);
+        x.shop(1, 8, 1);
+        x.shop(118, 8, 1);
+        due.is("at the first, SIDE 1", x.spill(3, 0), 3);
+        due.is("at the last, SIDE 0", x.spill(4, 0), 3);
         for (int point = 58; point < 64; point++) x.stand(2, point);
         due.is("POOLS count", x.spill(2, 0), 5);
         x = Streets.along("least 1");

@@ -359,6 +359,18 @@ public final class ShelfEdgesTest {
         due.is("light where none is", x.judge(0, 1, 0), 60);
         x.set(1, 1, -1);
         due.is("the first", x.judge(0, 1, 0), 1);
+        x = Streets.along("shop 118 1 1;shop 1 1 1");
+        x.laying(0, 0, 0);
+        x.row(1, 0, 120);
+        x.set(1, 1, 1);
+        due.is("the last of SIDE 0", x.judge(0, 1, 0), 118);
+        x.set(1, 118, 1);
+        due.is("all are", x.judge(0, 1, 0), -1);
+        x.shop(118, 9, 1);
+        x.set(1, 118, 10);
+        x.set(1, 116, 4);
+        x.set(1, 114, 2);
+        due.is("nothing behind the last", x.judge(0, 1, 0), -1);
         x = new LightAlong();
         x.laying(0, 0, 0);
         x.row(1, 0, 0);
