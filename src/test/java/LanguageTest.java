@@ -1,5 +1,7 @@
 import com.sun.management.ThreadMXBean;
 import java.io.IOException;
+import java.io.PrintWriter;
+import java.io.StringWriter;
 import java.lang.management.ManagementFactory;
 import java.lang.reflect.Method;
 import java.lang.reflect.Modifier;
@@ -8,11 +10,15 @@ import java.nio.file.Files;
 import java.nio.file.Path;
 import java.util.ArrayList;
 import java.util.Arrays;
+import java.util.HashMap;
 import java.util.List;
+import java.util.Map;
 import java.util.Set;
+import java.util.TreeMap;
 import java.util.TreeSet;
 import java.util.regex.Matcher;
 import java.util.regex.Pattern;
+import java.util.spi.ToolProvider;
 
 /** The rules of LANGUAGE.md that can be seen in the source, in the compiled class, and in what it makes. */
 public final class LanguageTest {
@@ -35,6 +41,7 @@ public final class LanguageTest {
         face();
         words(withoutTexts(source));
         sizes(withoutTexts(source));
+        depths();
         room();
         due.end();
     }
@@ -115,6 +122,56 @@ public final class LanguageTest {
             if (lines[i].matches(" {4}( {4})?[\\w<>\\[\\] ]+\\(.*\\) \\{")) start = i;
             if (lines[i].matches(" {4}( {4})?\\}")) due.holds("line " + i + " ends a short method", i - start <= 60);
         }
+    }
+
+    /** How deep calls go, as the compiled classes tell it; there is no recursion. */
+    private static void depths() {
+        due.about("rules 8 and 11");
+        ToolProvider javap = ToolProvider.findFirst("javap").orElse(null);
+        if (javap == null) {
+            // Only javac and java are sure to be there.
+            System.out.println("this Java has no javap, so how deep calls go isn't looked at");
+            return;
+        }
+        Map<String, Set<String>> calls = new TreeMap<>();
+        for (Class<?> c : classes()) addCalls(javap, calls, c.getName());
+        due.holds("calls are found", calls.getOrDefault("LightAlong.act", Set.of()).contains("LightAlong$Acts.costs"));
+        due.holds("constructors too", calls.containsKey("LightAlong.<init>") && calls.containsKey("LightAlong$Acts.<init>"));
+        Map<String, Integer> depths = new HashMap<>();
+        for (String method : calls.keySet()) {
+            due.holds(method + " is at most eight deep", depthOf(method, calls, depths) <= 8);
+        }
+    }
+
+    private static void addCalls(ToolProvider javap, Map<String, Set<String>> calls, String name) {
+        StringWriter told = new StringWriter();
+        PrintWriter writer = new PrintWriter(told);
+        int exit = javap.run(writer, writer, "-p", "-c", "-cp", System.getProperty("java.class.path"), name);
+        due.is("javap " + name, exit, 0);
+        String method = "";
+        for (String line : told.toString().split("\n")) {
+            Matcher head = Pattern.compile(" {2}(?:\\S+ )*([\\w$]+)\\(.*\\);\\s*").matcher(line);
+            Matcher call = Pattern.compile(".*// Method (?:(LightAlong[\\w$]*)\\.)?\"?([\\w$<>]+)\"?:.*").matcher(line);
+            if (head.matches()) {
+                method = name + "." + (head.group(1).equals(name) ? "<init>" : head.group(1));
+                calls.computeIfAbsent(method, m -> new TreeSet<>());
+            } else if (call.matches() && !method.isEmpty()) {
+                String of = call.group(1) == null ? name : call.group(1);
+                calls.get(method).add(of + "." + call.group(2));
+            }
+        }
+    }
+
+    /** How many methods are open at once from this one on; far too many for one that comes back to itself. */
+    private static int depthOf(String method, Map<String, Set<String>> calls, Map<String, Integer> depths) {
+        if (depths.containsKey(method)) return depths.get(method);
+        depths.put(method, 100);
+        int deepest = 0;
+        for (String next : calls.getOrDefault(method, Set.of())) {
+            deepest = Math.max(deepest, depthOf(next, calls, depths));
+        }
+        depths.put(method, deepest + 1);
+        return deepest + 1;
     }
 
     /** What a run makes: by each measure less than its room, since an element is a byte at least. */
